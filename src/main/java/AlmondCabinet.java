@@ -26,17 +26,27 @@ public final class AlmondCabinet {
     private static final int MOST_LICKED = 9;
     private static final int FALLING = 9;
     private static final int LEANING = 5;
+    private static final int MOST_LEANT = 8;
+    private static final int LEANS_TRIED = 17;
     private static final int LEFT_SIDE = -1;
     private static final int RIGHT_SIDE = 1;
+
+    private static final int VALUE_SUGAR = 0;
+    private static final int VALUE_ALMOND = 1;
+    private static final int VALUE_HEAT = 2;
+    private static final int VALUE_LEAN = 3;
+    private static final int VALUE_DAY = 4;
+    private static final int VALUE_LEFT = 5;
+    private static final int VALUE_RIGHT = 6;
+    private static final int MELTS_VALUES = 5;
+    private static final int LEANS_VALUES = 7;
 
     private static final int REFUSED_TEXT = 0;
     private static final int REFUSED_ACT = 1;
     private static final int REFUSED_SEEN = 2;
     private static final int REFUSALS = 3;
 
-    private final byte[] tape = new byte[TAPE];
-    private int taped = 0;
-    private final Reader reader = new Reader(tape);
+    private final Reader reader = new Reader();
     private int faultPlace = NONE;
 
     private Recipe recipe = new Recipe();
@@ -58,23 +68,24 @@ public final class AlmondCabinet {
     // ---- the text
 
     public int feed(int a, int b, int c, int d, int e) {
-        if (taped + 20 > TAPE) {
+        Tape tape = reader.tape;
+        if (tape.many + 20 > TAPE) {
             return NONE;
         }
-        putBytes(a);
-        putBytes(b);
-        putBytes(c);
-        putBytes(d);
-        putBytes(e);
-        return taped;
+        tape.add(a);
+        tape.add(b);
+        tape.add(c);
+        tape.add(d);
+        tape.add(e);
+        return tape.many;
     }
 
     public int cabinet(int n) throws IllegalArgumentException {
-        if (n < 0 || n > taped) {
+        if (n < 0 || n > reader.tape.many) {
             throw new IllegalArgumentException("the tape has not so many");
         }
         int fault = reader.read(n, spareRecipe);
-        taped = 0;
+        reader.tape.many = 0;
         if (fault != 0) {
             faultPlace = reader.place;
             refused[REFUSED_TEXT]++;
@@ -117,7 +128,7 @@ public final class AlmondCabinet {
             case 7:
                 return seen.many;
             case 8:
-                return taped;
+                return reader.tape.many;
             default:
                 return refused[what - 9];
         }
@@ -438,9 +449,11 @@ public final class AlmondCabinet {
     public int toCast(int head, int days) throws NoSuchElementException, IllegalArgumentException {
         needHead(head);
         needDays(days, 0);
-        for (int more = 0; more <= MOST_CAST; more++) {
+        // more than 99 is the same as 99, so there is nothing to try beyond
+        int most = Math.min(MOST_CAST, MOST_SUGAR - now.sugar[head]);
+        for (int more = 0; more <= most && now.stands(head); more++) {
             tryDays(0);
-            trial.sugar[head] = Math.min(MOST_SUGAR, now.sugar[head] + more);
+            trial.sugar[head] += more;
             trial.passDays(recipe, days);
             if (trial.stands(head)) {
                 return more;
@@ -560,11 +573,11 @@ public final class AlmondCabinet {
         }
         int many = 0;
         int earliest = NONE;
-        for (int guess = 0; guess < HEADS * 17; guess++) {
+        for (int guess = 0; guess < HEADS * LEANS_TRIED; guess++) {
             if (tryGuess(guess, latest)) {
                 many++;
                 if (earliest == NONE) {
-                    earliest = 100 * (guess / 17) + guess % 17;
+                    earliest = 100 * (guess / LEANS_TRIED) + guess % LEANS_TRIED;
                 }
             }
         }
@@ -577,7 +590,7 @@ public final class AlmondCabinet {
         for (int day = 0; day <= LATEST_SEEN; day++) {
             outcomes[day] = 0;
         }
-        for (int guess = 0; guess < HEADS * 17; guess++) {
+        for (int guess = 0; guess < HEADS * LEANS_TRIED; guess++) {
             if (tryGuess(guess, latest)) {
                 foresee(latest + 1, LATEST_SEEN);
                 noteOutcomes();
@@ -601,7 +614,8 @@ public final class AlmondCabinet {
 
     // ---- games
 
-    public int game(int head, int other, int question, int what) throws NoSuchElementException, IllegalArgumentException {
+    public int game(int head, int other, int question, int what)
+            throws NoSuchElementException, IllegalArgumentException {
         needHead(head);
         needHead(other);
         needQuestion(question);
@@ -705,13 +719,6 @@ public final class AlmondCabinet {
 
     // ---- helpers of the face
 
-    private void putBytes(int four) {
-        for (int shift = 24; shift >= 0 && taped < TAPE; shift -= 8) {
-            tape[taped] = (byte) (four >> shift);
-            taped++;
-        }
-    }
-
     private void tryDays(int days) {
         trial.copyFrom(now);
         trial.passDays(recipe, days);
@@ -737,12 +744,12 @@ public final class AlmondCabinet {
     }
 
     /**
-     * Guesses go head by head, of each the 17 leans from -8 to 8: whether this one is a guess at
+     * Guesses go head by head, of each the leans from -8 to 8: whether this one is a guess at
      * all and all that is seen would be so by it. The trial row stands at the latest day then.
      */
     private boolean tryGuess(int guess, int latest) {
-        int head = guess / 17;
-        int lean = guess % 17 - 8;
+        int head = guess / LEANS_TRIED;
+        int lean = guess % LEANS_TRIED - MOST_LEANT;
         if (head >= now.heads || !now.stands(head) || now.lean[head] == lean) {
             return false;
         }
@@ -755,7 +762,7 @@ public final class AlmondCabinet {
     private void foresee(int from, int to) {
         for (int day = Math.max(0, from); day <= to && day < passedOn.length; day++) {
             if (day > 0) {
-                trial.passDays(recipe, 1);
+                trial.passDay(recipe, recipe.heatOn(trial.day));
             }
             passedOn[day] = trial.passing();
         }
@@ -782,14 +789,13 @@ public final class AlmondCabinet {
         OR("or", NONE),
         AND("and", NONE),
         NOT("not", NONE),
-        SUGAR("sugar", 0),
-        ALMOND("almond", 1),
-        HEAT("heat", 2),
-        LEAN("lean", 3),
-        DAY("day", 4),
-        LEFT("left", 5),
-        RIGHT("right", 6),
-        OTHER("", NONE);
+        SUGAR("sugar", VALUE_SUGAR),
+        ALMOND("almond", VALUE_ALMOND),
+        HEAT("heat", VALUE_HEAT),
+        LEAN("lean", VALUE_LEAN),
+        DAY("day", VALUE_DAY),
+        LEFT("left", VALUE_LEFT),
+        RIGHT("right", VALUE_RIGHT);
 
         private static final Word[] ALL = values();
 
@@ -801,21 +807,12 @@ public final class AlmondCabinet {
             this.place = place;
         }
 
-        private static Word spelt(byte[] tape, int from, int to) {
-            for (int k = 0; k < ALL.length; k++) {
-                if (ALL[k].isSpelt(tape, from, to)) {
-                    return ALL[k];
-                }
-            }
-            return OTHER;
-        }
-
-        private boolean isSpelt(byte[] tape, int from, int to) {
-            if (from < 0 || to > tape.length || to - from != text.length()) {
+        private boolean isSpelt(byte[] bytes, int from, int to) {
+            if (from < 0 || to > bytes.length || to - from != text.length()) {
                 return false;
             }
             for (int k = from; k < to; k++) {
-                if (tape[k] != text.charAt(k - from)) {
+                if (bytes[k] != text.charAt(k - from)) {
                     return false;
                 }
             }
@@ -823,8 +820,8 @@ public final class AlmondCabinet {
         }
     }
 
-    /** The token at hand, and the step to the next one. A sign's kind is the sign itself. */
-    private static final class Tokens {
+    /** The bytes, the token at hand, and the step to the next one. A sign's kind is the sign itself. */
+    private static final class Tape {
         private static final int END = 0;
         private static final int WORD = 1;
         private static final int NUMBER = 2;
@@ -832,62 +829,66 @@ public final class AlmondCabinet {
         private static final int TOO_LONG = 10000;
         private static final String SIGNS = ";()+-*/<=";
 
-        private final byte[] tape;
+        private final byte[] bytes = new byte[TAPE];
+        private int many = 0;
         private int end = 0;
         private int next = 0;
         private int kind = END;
         private int start = 0;
         private int number = 0;
-        private Word word = Word.OTHER;
 
-        Tokens(byte[] tape) {
-            this.tape = tape;
+        private void add(int four) {
+            for (int shift = 24; shift >= 0 && many < TAPE; shift -= 8) {
+                bytes[many] = (byte) (four >> shift);
+                many++;
+            }
         }
 
         private void begin(int length) {
-            end = Math.min(length, tape.length);
+            end = Math.min(length, many);
             next = 0;
             step();
         }
 
         private void step() {
-            while (next < end && (tape[next] == ' ' || tape[next] == '\n')) {
+            while (next < end && (bytes[next] == ' ' || bytes[next] == '\n')) {
                 next++;
             }
             start = next;
             if (next >= end) {
                 kind = END;
-            } else if (isIn(tape[next], 'a', 'z')) {
-                stepWord();
-            } else if (isIn(tape[next], '0', '9')) {
-                stepNumber();
+            } else if (isIn(bytes[next], 'a', 'z')) {
+                kind = WORD;
+                while (next < end && isIn(bytes[next], 'a', 'z')) {
+                    next++;
+                }
+            } else if (isIn(bytes[next], '0', '9')) {
+                kind = NUMBER;
+                number = 0;
+                while (next < end && isIn(bytes[next], '0', '9')) {
+                    // leading zeros are digits too, so it is the length that decides
+                    number = next - start < 4 ? 10 * number + bytes[next] - '0' : TOO_LONG;
+                    next++;
+                }
             } else {
-                int sign = tape[next] & 255;
+                int sign = bytes[next] & 255;
                 kind = SIGNS.indexOf((char) sign) >= 0 ? sign : NOTHING;
                 next++;
             }
         }
 
-        private void stepWord() {
-            while (next < end && isIn(tape[next], 'a', 'z')) {
-                next++;
-            }
-            kind = WORD;
-            word = Word.spelt(tape, start, next);
-        }
-
-        private void stepNumber() {
-            number = 0;
-            while (next < end && isIn(tape[next], '0', '9')) {
-                // leading zeros are digits too, so it is the length that decides
-                number = next - start < 4 ? 10 * number + tape[next] - '0' : TOO_LONG;
-                next++;
-            }
-            kind = NUMBER;
-        }
-
         private boolean isWord(Word wanted) {
-            return kind == WORD && word == wanted;
+            return kind == WORD && wanted.isSpelt(bytes, start, next);
+        }
+
+        /** The place of the word at hand among a rule's values. */
+        private int valueHere() {
+            for (int k = 0; k < Word.ALL.length; k++) {
+                if (isWord(Word.ALL[k])) {
+                    return Word.ALL[k].place;
+                }
+            }
+            return NONE;
         }
 
         private static boolean isIn(int sign, char least, char most) {
@@ -906,35 +907,31 @@ public final class AlmondCabinet {
         private static final int DEEPEST = 5;
         private static final int MOST_NOTS = 6;
 
-        private final Tokens tokens;
+        private final Tape tape = new Tape();
         private int fault = 0;
         private int place = NONE;
-
-        Reader(byte[] tape) {
-            tokens = new Tokens(tape);
-        }
 
         private int read(int length, Recipe recipe) {
             fault = 0;
             place = NONE;
             recipe.clear();
-            tokens.begin(length);
-            for (int line = 0; line < TAPE && fault == 0 && tokens.kind != Tokens.END; line++) {
+            tape.begin(length);
+            for (int line = 0; line < TAPE && fault == 0 && tape.kind != Tape.END; line++) {
                 readLine(recipe);
             }
             return fault;
         }
 
         private void readLine(Recipe recipe) {
-            if (tokens.isWord(Word.HEAD)) {
+            if (tape.isWord(Word.HEAD)) {
                 readHead(recipe, false);
-            } else if (tokens.isWord(Word.MARBLED)) {
+            } else if (tape.isWord(Word.MARBLED)) {
                 readHead(recipe, true);
-            } else if (tokens.isWord(Word.HEAT)) {
+            } else if (tape.isWord(Word.HEAT)) {
                 readHeat(recipe);
-            } else if (tokens.isWord(Word.MELTS)) {
+            } else if (tape.isWord(Word.MELTS)) {
                 readRule(recipe, recipe.melts);
-            } else if (tokens.isWord(Word.LEANS)) {
+            } else if (tape.isWord(Word.LEANS)) {
                 readRule(recipe, recipe.leans);
             } else {
                 fail(WRONG);
@@ -946,7 +943,7 @@ public final class AlmondCabinet {
                 fail(TOO_MUCH);
                 return;
             }
-            tokens.step();
+            tape.step();
             int sugar = readNumber(1, MOST_SUGAR);
             int almond = readNumber(0, MOST_ALMOND);
             int first = readNumber(0, ALL_QUESTIONS);
@@ -962,12 +959,12 @@ public final class AlmondCabinet {
                 fail(TWICE);
                 return;
             }
-            tokens.step();
+            tape.step();
             recipe.addHeat(readNumber(0, MOST_HEAT));
-            for (int k = 1; k < HEATS && fault == 0 && tokens.kind == Tokens.NUMBER; k++) {
+            for (int k = 1; k < HEATS && fault == 0 && tape.kind == Tape.NUMBER; k++) {
                 recipe.addHeat(readNumber(0, MOST_HEAT));
             }
-            if (fault == 0 && tokens.kind == Tokens.NUMBER) {
+            if (fault == 0 && tape.kind == Tape.NUMBER) {
                 fail(TOO_MUCH);
             }
             readSign(';');
@@ -978,82 +975,83 @@ public final class AlmondCabinet {
                 fail(TWICE);
                 return;
             }
-            tokens.step();
-            rule.begin(recipe.codes);
-            readExpr(rule, 0);
-            recipe.codes = rule.to;
+            tape.step();
+            rule.isGiven = true;
+            rule.from = recipe.codes;
+            readExpr(recipe, rule, 0);
+            rule.to = recipe.codes;
             readSign(';');
         }
 
-        private void readExpr(Rule rule, int depth) {
+        private void readExpr(Recipe recipe, Rule rule, int depth) {
             if (depth > DEEPEST) {
-                boolean couldBegin = tokens.kind == Tokens.NUMBER || tokens.kind == Tokens.WORD || tokens.kind == '(';
+                boolean couldBegin = tape.kind == Tape.NUMBER || tape.kind == Tape.WORD || tape.kind == '(';
                 fail(couldBegin ? TOO_MUCH : WRONG);
                 return;
             }
-            readLevel(rule, Rule.OR_LEVEL, depth);
+            readLevel(recipe, rule, Rule.OR_LEVEL, depth);
         }
 
         /** A row of parts that bind closer, with operators of this level between them. */
-        private void readLevel(Rule rule, int level, int depth) {
+        private void readLevel(Recipe recipe, Rule rule, int level, int depth) {
             if (fault != 0) {
                 return;
             }
             if (level == Rule.TEST_LEVEL) {
-                readTest(rule, depth);
+                readTest(recipe, rule, depth);
                 return;
             }
             if (level > Rule.PRODUCT_LEVEL) {
-                readPart(rule, depth);
+                readPart(recipe, rule, depth);
                 return;
             }
-            readLevel(rule, level + 1, depth);
+            readLevel(recipe, rule, level + 1, depth);
             for (int k = 0; k < TAPE && fault == 0; k++) {
                 int operator = operatorHere();
                 if (Rule.levelOf(operator) != level) {
                     return;
                 }
-                tokens.step();
-                readLevel(rule, level + 1, depth);
-                rule.add(operator);
+                tape.step();
+                readLevel(recipe, rule, level + 1, depth);
+                recipe.addCode(operator);
             }
         }
 
-        private void readTest(Rule rule, int depth) {
+        private void readTest(Recipe recipe, Rule rule, int depth) {
             int nots = 0;
-            while (nots < MOST_NOTS && tokens.isWord(Word.NOT)) {
-                tokens.step();
+            while (nots < MOST_NOTS && tape.isWord(Word.NOT)) {
+                tape.step();
                 nots++;
             }
-            if (nots == MOST_NOTS && tokens.isWord(Word.NOT)) {
+            if (nots == MOST_NOTS && tape.isWord(Word.NOT)) {
                 fail(TOO_MUCH);
             }
-            readLevel(rule, Rule.TEST_LEVEL + 1, depth);
+            readLevel(recipe, rule, Rule.TEST_LEVEL + 1, depth);
             int operator = operatorHere();
-            if (Rule.levelOf(operator) == Rule.TEST_LEVEL) {
-                tokens.step();
-                readLevel(rule, Rule.TEST_LEVEL + 1, depth);
-                rule.add(operator);
+            if (fault == 0 && Rule.levelOf(operator) == Rule.TEST_LEVEL) {
+                tape.step();
+                readLevel(recipe, rule, Rule.TEST_LEVEL + 1, depth);
+                recipe.addCode(operator);
             }
             for (int k = 0; k < nots; k++) {
-                rule.add(Rule.NOT);
+                recipe.addCode(Rule.NOT);
             }
         }
 
-        private void readPart(Rule rule, int depth) {
-            if (tokens.kind == Tokens.NUMBER) {
-                rule.add(readNumber(0, Tokens.TOO_LONG - 1));
-            } else if (tokens.kind == Tokens.WORD) {
-                int value = tokens.word.place;
+        private void readPart(Recipe recipe, Rule rule, int depth) {
+            if (tape.kind == Tape.NUMBER) {
+                recipe.addCode(readNumber(0, Tape.TOO_LONG - 1));
+            } else if (tape.kind == Tape.WORD) {
+                int value = tape.valueHere();
                 if (value == NONE || value >= rule.values) {
                     fail(NO_VALUE);
                     return;
                 }
-                rule.add(Rule.FIRST_VALUE - value);
-                tokens.step();
-            } else if (tokens.kind == '(') {
-                tokens.step();
-                readExpr(rule, depth + 1);
+                recipe.addCode(Rule.FIRST_VALUE - value);
+                tape.step();
+            } else if (tape.kind == '(') {
+                tape.step();
+                readExpr(recipe, rule, depth + 1);
                 readSign(')');
             } else {
                 fail(WRONG);
@@ -1061,12 +1059,12 @@ public final class AlmondCabinet {
         }
 
         private int operatorHere() {
-            switch (tokens.kind) {
-                case Tokens.WORD:
-                    if (tokens.word == Word.OR) {
+            switch (tape.kind) {
+                case Tape.WORD:
+                    if (tape.isWord(Word.OR)) {
                         return Rule.OR;
                     }
-                    return tokens.word == Word.AND ? Rule.AND : Rule.NO_OPERATOR;
+                    return tape.isWord(Word.AND) ? Rule.AND : Rule.NO_OPERATOR;
                 case '<':
                     return Rule.LESS;
                 case '=':
@@ -1088,16 +1086,16 @@ public final class AlmondCabinet {
             if (fault != 0) {
                 return 0;
             }
-            if (tokens.kind != Tokens.NUMBER) {
+            if (tape.kind != Tape.NUMBER) {
                 fail(WRONG);
                 return 0;
             }
-            int number = tokens.number;
+            int number = tape.number;
             if (number < least || number > most) {
                 fail(TOO_MUCH);
                 return 0;
             }
-            tokens.step();
+            tape.step();
             return number;
         }
 
@@ -1105,24 +1103,24 @@ public final class AlmondCabinet {
             if (fault != 0) {
                 return;
             }
-            if (tokens.kind != sign) {
+            if (tape.kind != sign) {
                 fail(WRONG);
                 return;
             }
-            tokens.step();
+            tape.step();
         }
 
         private void fail(int which) {
             if (fault == 0) {
                 fault = which;
-                place = tokens.start;
+                place = tape.start;
             }
         }
     }
 
     // ---- what a text tells
 
-    /** An EXPR in the order in which it is worked out: parts first, then what joins them. */
+    /** Where a recipe's codes hold an EXPR, and what the codes mean. */
     private static final class Rule {
         // a number stands for itself, so all else is below 0
         private static final int FIRST_VALUE = -1;
@@ -1144,38 +1142,13 @@ public final class AlmondCabinet {
         private static final int SUM_LEVEL = 3;
         private static final int PRODUCT_LEVEL = 4;
 
-        // six EXPRs in one another, each with five levels that may wait for a second part
-        private static final int WAITING = 40;
-
-        private final int[] codes;
         private final int values;
-        private final int[] waiting = new int[WAITING];
         private boolean isGiven = false;
         private int from = 0;
         private int to = 0;
 
-        Rule(int[] codes, int values) {
-            this.codes = codes;
+        Rule(int values) {
             this.values = values;
-        }
-
-        private void clear() {
-            isGiven = false;
-            from = 0;
-            to = 0;
-        }
-
-        private void begin(int at) {
-            isGiven = true;
-            from = at;
-            to = at;
-        }
-
-        private void add(int code) {
-            if (to >= 0 && to < codes.length) {
-                codes[to] = code;
-                to++;
-            }
         }
 
         private static int levelOf(int operator) {
@@ -1196,28 +1169,6 @@ public final class AlmondCabinet {
                 default:
                     return NO_LEVEL;
             }
-        }
-
-        private int worth(int[] known) {
-            int many = 0;
-            for (int at = from; at < to && at < codes.length; at++) {
-                int code = codes[at];
-                if (code > NOT) {
-                    int value = FIRST_VALUE - code;
-                    if (many < WAITING && value < known.length) {
-                        waiting[many] = code >= 0 ? code : known[value];
-                        many++;
-                    }
-                } else if (code == NOT) {
-                    if (many > 0) {
-                        waiting[many - 1] = waiting[many - 1] == 0 ? 1 : 0;
-                    }
-                } else if (many > 1) {
-                    waiting[many - 2] = joined(code, waiting[many - 2], waiting[many - 1]);
-                    many--;
-                }
-            }
-            return waiting[0];
         }
 
         private static int joined(int operator, int a, int b) {
@@ -1244,9 +1195,9 @@ public final class AlmondCabinet {
 
     /** What a text tells and no call changes: heads as they are at first, heat, both rules. */
     private static final class Recipe {
-        private static final int MELTS_VALUES = 5;
-        private static final int LEANS_VALUES = 7;
         private static final int USUAL_HEAT = 4;
+        // six EXPRs in one another, each with five levels that may wait for a second part
+        private static final int WAITING = 40;
 
         private int heads = 0;
         private int marbled = 0;
@@ -1256,19 +1207,20 @@ public final class AlmondCabinet {
         private final int[] second = new int[HEADS];
         private int heats = 0;
         private final int[] heat = new int[HEATS];
-        // a token makes at most one code, and both rules stand in one text
+        private final Rule melts = new Rule(MELTS_VALUES);
+        private final Rule leans = new Rule(LEANS_VALUES);
+        // both rules' codes, parts ahead of what joins them; a token makes at most one
         private final int[] code = new int[TAPE];
         private int codes = 0;
-        private final Rule melts = new Rule(code, MELTS_VALUES);
-        private final Rule leans = new Rule(code, LEANS_VALUES);
+        private final int[] waiting = new int[WAITING];
 
         private void clear() {
             heads = 0;
             marbled = 0;
             heats = 0;
             codes = 0;
-            melts.clear();
-            leans.clear();
+            melts.isGiven = false;
+            leans.isGiven = false;
         }
 
         private void addHead(int itsSugar, int itsAlmond, int itsFirst, int itsSecond, boolean isMarbled) {
@@ -1290,8 +1242,38 @@ public final class AlmondCabinet {
             }
         }
 
+        private void addCode(int its) {
+            if (codes < TAPE) {
+                code[codes] = its;
+                codes++;
+            }
+        }
+
         private int heatOn(int day) {
             return heats == 0 ? USUAL_HEAT : heat[Math.floorMod(day, heats)];
+        }
+
+        /** What a rule gives for the values of a head. */
+        private int worth(Rule rule, int[] known) {
+            int many = 0;
+            for (int at = rule.from; at < rule.to && at < codes; at++) {
+                int its = code[at];
+                if (its > Rule.NOT) {
+                    int value = Rule.FIRST_VALUE - its;
+                    if (many < WAITING && value < known.length) {
+                        waiting[many] = its >= 0 ? its : known[value];
+                        many++;
+                    }
+                } else if (its == Rule.NOT) {
+                    if (many > 0) {
+                        waiting[many - 1] = waiting[many - 1] == 0 ? 1 : 0;
+                    }
+                } else if (many > 1) {
+                    waiting[many - 2] = Rule.joined(its, waiting[many - 2], waiting[many - 1]);
+                    many--;
+                }
+            }
+            return waiting[0];
         }
     }
 
@@ -1318,7 +1300,7 @@ public final class AlmondCabinet {
         private final int[] headIn = new int[HEADS];
 
         private final int[] sways = new int[HEADS];
-        private final int[] known = new int[Recipe.LEANS_VALUES];
+        private final int[] known = new int[LEANS_VALUES];
         private final int[] tally = new int[QUESTIONS];
 
         private void setOut(Recipe recipe) {
@@ -1384,7 +1366,12 @@ public final class AlmondCabinet {
 
         /** The next one who stands on a side of a head. */
         private int nextTo(int head, int side) {
-            for (int seat = seatOf[head] + side; seat >= 0 && seat < heads; seat += side) {
+            int seat = seatOf[head];
+            for (int k = 1; k < heads; k++) {
+                seat += side;
+                if (seat < 0 || seat >= heads) {
+                    return NONE;
+                }
                 if ((standing >> headIn[seat] & 1) != 0) {
                     return headIn[seat];
                 }
@@ -1461,7 +1448,7 @@ public final class AlmondCabinet {
                 int less = heat - recipe.almond[head];
                 if (recipe.melts.isGiven) {
                     know(recipe, head, heat);
-                    less = recipe.melts.worth(known);
+                    less = recipe.worth(recipe.melts, known);
                 }
                 sugar[head] = Math.max(0, sugar[head] - within(less, 0, MOST_MELTED));
                 if (sugar[head] == 0) {
@@ -1480,28 +1467,25 @@ public final class AlmondCabinet {
         }
 
         private int swayOf(Recipe recipe, int head, int heat) {
-            int left = sugarNextTo(head, LEFT_SIDE);
-            int right = sugarNextTo(head, RIGHT_SIDE);
+            int onLeft = nextTo(head, LEFT_SIDE);
+            int onRight = nextTo(head, RIGHT_SIDE);
+            int left = onLeft == NONE ? 0 : sugar[onLeft];
+            int right = onRight == NONE ? 0 : sugar[onRight];
             if (recipe.leans.isGiven) {
                 know(recipe, head, heat);
-                known[5] = left;
-                known[6] = right;
-                return within(recipe.leans.worth(known), -MOST_SWAY, MOST_SWAY);
+                known[VALUE_LEFT] = left;
+                known[VALUE_RIGHT] = right;
+                return within(recipe.worth(recipe.leans, known), -MOST_SWAY, MOST_SWAY);
             }
             return heat >= HOT ? Integer.compare(left, right) : 0;
         }
 
-        private int sugarNextTo(int head, int side) {
-            int next = nextTo(head, side);
-            return next == NONE ? 0 : sugar[next];
-        }
-
         private void know(Recipe recipe, int head, int heat) {
-            known[0] = sugar[head];
-            known[1] = recipe.almond[head];
-            known[2] = heat;
-            known[3] = lean[head];
-            known[4] = day;
+            known[VALUE_SUGAR] = sugar[head];
+            known[VALUE_ALMOND] = recipe.almond[head];
+            known[VALUE_HEAT] = heat;
+            known[VALUE_LEAN] = lean[head];
+            known[VALUE_DAY] = day;
         }
 
         private void topple(int head, int side) {
