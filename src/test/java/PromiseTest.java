@@ -192,7 +192,18 @@ public final class PromiseTest {
         due("3: seen is gone", x.count(7), 0);
         due("3: the image is gone", x.restore(), false);
         due("3: refused acts stay counted", x.count(10), 1);
+        feedText(x, "heat 7;melts 1;leans 2;marbled 5 5 5 6;");
+        due("3: another one", x.cabinet(39), 0);
         due("3: no text at all", x.cabinet(0), 0);
+        feedText(x, "head 90 1 0;head 90 2 0;");
+        due("3: without heat and rules", x.cabinet(24), 0);
+        due("3: heat is gone", x.count(2), 4);
+        due("3: marbled is gone", x.head(0, 5), 0);
+        due("3: melts is gone", x.then(0, 1, 0), 87);
+        due("3: leans is gone", x.then(0, 1, 1), 0);
+        feedText(x, "melts 1;leans 2;heat 7;");
+        due("3: they may come again", x.cabinet(23), 0);
+        x.cabinet(0);
         due("3: no heads", x.count(0), 0);
     }
 
@@ -608,11 +619,13 @@ public final class PromiseTest {
         x.days(3);
         due("17: has fallen", x.falls(3), 0);
         AlmondCabinet chain = of(CHAIN);
+        due("18: the first day", of("head 4 0 0;").down(1), 1);
         due("18: three", chain.down(3), 7);
         due("18: the fourth", chain.down(4), 8);
         due("19: the latest", chain.last(), 3);
         chain.days(4);
         due("19: nobody", chain.last(), -1);
+        due("19: on the first day", of("head 9 0 0;head 4 0 0;melts 20;").last(), 0);
         AlmondCabinet like = of("head 8 0 0;head 40 0 0;head 40 0 0;leans 0;");
         due("19: the least of like ones", like.last(), 1);
         AlmondCabinet forty = of("head 40 0 0;head 41 0 0;melts 1;leans 0;");
@@ -762,6 +775,15 @@ public final class PromiseTest {
         AlmondCabinet like = of("head 90 9 1;head 90 9 1;head 90 9 0;head 90 0 0;melts 0;leans 0-(almond=0)*3;");
         like.days(2);
         due("28: the first of like ones", like.better(), 2);
+        AlmondCabinet far = of("head 90 9 0;head 90 9 0;head 90 9 1;head 90 0 0;head 90 9 1;melts 0;"
+                + "leans 0-(almond=0)*3;");
+        due("28: nobody leans", far.better(), -1);
+        far.days(2);
+        due("28: as it votes", far.votes(0, 0), 28);
+        far.turn(2, 0);
+        due("28: none by 0 and 1", far.votes(0, 0), 16);
+        far.turn(1, 0);
+        due("28: a tenth by the lesser", far.better(), 12);
     }
 
     private static void sugarAhead() {
@@ -789,6 +811,10 @@ public final class PromiseTest {
         due("31: from now, two", heat.hottest(2), 1);
         heat.days(1);
         due("31: from now, at once", heat.hottest(4), 0);
+        AlmondCabinet slope = of("heat 1 2 3 4 5 6 7;");
+        slope.days(2);
+        due("31: the third on", slope.hottest(4), 3);
+        due("31: the last of all", slope.hottest(40), 4);
         badArgument("31: 0", () -> heat.hottest(0));
         badArgument("31: 41", () -> heat.hottest(41));
     }
@@ -869,6 +895,9 @@ public final class PromiseTest {
         AlmondCabinet x = of(FOUR);
         due("38: left one of two", x.middle(), 1);
         due("38: nobody", new AlmondCabinet().middle(), -1);
+        due("38: of three", of("head 9 0 0;head 9 0 0;head 9 0 0;").middle(), 1);
+        due("38: of five", of("head 9 0 0;".repeat(5)).middle(), 2);
+        due("38: of eight", of("head 9 0 0;".repeat(8)).middle(), 3);
         due("39: right", x.neighbour(0, 1), 1);
         due("39: none", x.neighbour(0, -1), -1);
         due("39: left", x.neighbour(3, -1), 2);
@@ -925,6 +954,14 @@ public final class PromiseTest {
         due("44: not without", x.leant(2), 0);
         x.see(0, 0, false);
         due("44: both can't be", x.leant(0), 0);
+        x.forget();
+        x.see(3, 0, true);
+        due("44: another question", x.leant(0), 0);
+        x.forget();
+        x.see(3, 20, false);
+        due("44: of all questions", x.leant(0), 64);
+        x.see(0, 0, true);
+        x.see(0, 0, false);
         due("44: none", x.leant(1), -1);
         noElement("44: what", () -> x.leant(3));
         noElement("44: below 0", () -> x.leant(-1));
@@ -958,6 +995,9 @@ public final class PromiseTest {
         x.see(0, 1, false);
         due("45: one alone", x.look(0), 1);
         due("45: itself", x.look(1), 1);
+        AlmondCabinet two = of("head 90 0 1;head 90 9 2;head 90 9 4;melts 0;leans (almond=0)*3;");
+        due("45: heads of all seats", two.look(1), 4);
+        due("45: first with most", two.look(0), 1);
         noElement("45: what", () -> x.look(2));
         noElement("45: below 0", () -> x.look(-1));
     }
@@ -1093,6 +1133,21 @@ public final class PromiseTest {
         due("49: the place of the fault is not in it", x.fault(), 0);
         due("49: acts can be undone", x.undo(), 0);
         due("49: to the first day", x.count(1), 0);
+        AlmondCabinet seen = of(FOUR);
+        seen.see(0, 0, true);
+        seen.turn(1, 1);
+        seen.image();
+        seen.undo();
+        seen.turn(0, 0);
+        seen.turn(0, 1);
+        seen.turn(0, 2);
+        seen.forget();
+        seen.see(5, 7, false);
+        seen.restore();
+        due("49: what is seen", seen.leant(1), 200);
+        due("49: the acts that were kept", seen.undo(), 0);
+        due("49: undone by them", seen.head(1, 6), 5);
+        due("49: and by no others", seen.head(0, 6), 3);
         due("50: again", x.restore(), true);
         due("50: day", x.count(1), 1);
         x.undo();
