@@ -1,85 +1,5 @@
-import java.util.NoSuchElementException;
-
 /** One group of checks for each promise of the document: ordinary inputs, edges, wrong inputs. */
-public final class PromiseTest {
-    private static final String FOUR =
-            "head 30 2 3;marbled 20 1 5 6;head 50 9 4;head 10 0 0;heat 6 3;";
-    /** Behind 3 days head 0 falls to the right and takes 1 and 2 with it; 3 is left with lean 8. */
-    private static final String CHAIN =
-            "head 90 0 1;head 90 1 2;head 90 2 4;head 90 3 8;melts 0;"
-            + "leans (almond=0)*3+(almond=1 or almond=2)*(2+(day=0))+(almond=3)*2;";
-    /** As CHAIN, from the right to the left. */
-    private static final String CHAIN_LEFT =
-            "head 90 3 8;head 90 2 4;head 90 1 2;head 90 0 1;melts 0;"
-            + "leans 0-((almond=0)*3+(almond=1 or almond=2)*(2+(day=0))+(almond=3)*2);";
-    private static final int MANY = Integer.MAX_VALUE;
-    private static final int FEW = Integer.MIN_VALUE;
-
-    private interface Call {
-        int run();
-    }
-
-    private static int wrong = 0;
-
-    private static void due(String what, int got, int want) {
-        if (got != want) {
-            wrong++;
-            System.out.println(what + " answered " + got + ", due is " + want);
-        }
-    }
-
-    private static void due(String what, boolean got, boolean want) {
-        due(what, got ? 1 : 0, want ? 1 : 0);
-    }
-
-    private static void noElement(String what, Call call) {
-        try {
-            int got = call.run();
-            wrong++;
-            System.out.println(what + " answered " + got + ", due is NoSuchElementException");
-        } catch (NoSuchElementException e) {
-            return;
-        }
-    }
-
-    private static void badArgument(String what, Call call) {
-        try {
-            int got = call.run();
-            wrong++;
-            System.out.println(what + " answered " + got + ", due is IllegalArgumentException");
-        } catch (IllegalArgumentException e) {
-            return;
-        }
-    }
-
-    private static int feedText(AlmondCabinet x, String text) {
-        int many = 0;
-        for (int at = 0; at < text.length(); at += 20) {
-            int[] five = new int[5];
-            for (int k = 0; k < 20; k++) {
-                int sign = at + k < text.length() ? text.charAt(at + k) : ' ';
-                five[k / 4] = five[k / 4] << 8 | sign;
-            }
-            many = x.feed(five[0], five[1], five[2], five[3], five[4]);
-        }
-        return many;
-    }
-
-    private static AlmondCabinet of(String text) {
-        AlmondCabinet x = new AlmondCabinet();
-        feedText(x, text);
-        due("cabinet of " + text, x.cabinet(text.length()), 0);
-        return x;
-    }
-
-    private static void fault(String text, int fault, int place) {
-        AlmondCabinet x = new AlmondCabinet();
-        feedText(x, text);
-        due("cabinet of " + text, x.cabinet(text.length()), fault);
-        due("fault of " + text, x.fault(), place);
-        due("refused texts of " + text, x.count(9), fault == 0 ? 0 : 1);
-    }
-
+public final class PromiseTest extends Checks {
     public static void main(String[] args) {
         newObject();
         feed();
@@ -121,8 +41,7 @@ public final class PromiseTest {
         game();
         years();
         image();
-        System.out.println(wrong == 0 ? "all promises hold" : wrong + " wrong answers");
-        System.exit(wrong == 0 ? 0 : 1);
+        end("promises");
     }
 
     private static void newObject() {
