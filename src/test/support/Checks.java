@@ -145,6 +145,29 @@ abstract class Checks {
         return x;
     }
 
+    /** Heads for no question who lean so far behind three days; whoever comes to 9 or -9 falls then. */
+    static AlmondCabinet leaning(int... leans) {
+        return leaning(new int[leans.length], leans);
+    }
+
+    static AlmondCabinet leaning(int[] opinions, int... leans) {
+        StringBuilder text = new StringBuilder();
+        StringBuilder rule = new StringBuilder("melts 0;leans 0");
+        for (int head = 0; head < leans.length; head++) {
+            text.append("head 99 ").append(head).append(' ').append(opinions[head]).append(';');
+            int left = leans[head];
+            for (int day = 0; day < 3; day++) {
+                int sway = Math.max(-3, Math.min(3, left));
+                left -= sway;
+                if (sway != 0) {
+                    rule.append(sway < 0 ? '-' : '+').append("(almond=").append(head).append(" and day=").append(day)
+                            .append(")*").append(Math.abs(sway));
+                }
+            }
+        }
+        return of(text.append(rule).append(';').toString(), 3);
+    }
+
     static void fault(String text, int fault, int place) {
         AlmondCabinet x = new AlmondCabinet();
         feedText(x, text);
@@ -184,8 +207,9 @@ abstract class Checks {
             all.add(x.undo());
             tell(x, but, all);
         }
-        all.add(x.restore() ? 1 : 0);
-        tell(x, NO_STATUS, all);
+        boolean restored = x.restore();
+        all.add(restored ? 1 : 0);
+        tell(x, restored ? NO_STATUS : but, all);
         return all;
     }
 
