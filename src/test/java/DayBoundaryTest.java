@@ -298,10 +298,11 @@ public final class DayBoundaryTest extends Checks {
 
     /** "else as the first one, if LEAN is 0 or more, as the second one, if it is less" */
     private static void marbledOpinions() {
-        for (int lean = -8; lean <= 8; lean++) {
-            String rule = (lean < 0 ? "0-" : "") + "(day=0)*" + Math.min(3, Math.abs(lean));
+        for (int lean = -3; lean <= 3; lean++) {
+            String rule = lean < 0 ? "0-" + -lean : "" + lean;
             AlmondCabinet x = of("marbled 99 0 12 10;melts 0;leans " + rule + ";", 1);
-            due("6: by lean " + x.head(0, 2), x.head(0, 6), lean < 0 ? 10 : 12);
+            due("6: its lean", x.head(0, 2), lean);
+            due("6: by lean " + lean, x.head(0, 6), lean < 0 ? 10 : 12);
         }
         AlmondCabinet like = of("marbled 99 0 40 40;melts 0;leans 0-1;");
         due("6: both parts are like", like.head(0, 6), 40);
