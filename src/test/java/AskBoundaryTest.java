@@ -375,6 +375,8 @@ public final class AskBoundaryTest extends Checks {
         due("23: those who stand", x.toTurn(0), 6);
         AlmondCabinet y = leaning(new int[] {0, 0, 0, 0}, 5, 0, -5, -5);
         due("23: 1, whom 0 and 2 follow", y.toTurn(0), 2);
+        AlmondCabinet z = leaning(new int[] {1, 1, 1, 1}, 0, 0, 0, -5);
+        due("23: one, 2, is fewer than two, though 0 and 1 are less as bits", z.toTurn(0), 4);
     }
 
     /** "who falls with it, it too (bits; 0, if it doesn't stand)" */
@@ -471,6 +473,7 @@ public final class AskBoundaryTest extends Checks {
     private static void betterThanNow() {
         due("28: one alone", of("head 9 0 0;").better(), NONE);
         due("28: as many as now are not more", leaning(new int[] {0, 1, 2}, 5, 0, 0).better(), NONE);
+        due("28: one change alone, not one behind another", leaning(new int[] {0, 0, 1}, -5, 0, 0).better(), NONE);
         due("28: all pass already", leaning(new int[] {63, 63}, 5, 0).better(), NONE);
         AlmondCabinet x = leaning(new int[] {0, 0, 0, 1}, 9, 4, 0, 0);
         x.change(0, 1);
@@ -505,6 +508,10 @@ public final class AskBoundaryTest extends Checks {
         due("29: behind 8", x.heaviest(7), 0);
         due("29: like behind 8, the least", x.heaviest(8), 0);
         due("29: another one then", x.heaviest(9), 1);
+        AlmondCabinet y = of("head 50 9 0;head 60 0 0;heat 5;leans 0;");
+        due("29: heavier behind 1", y.heaviest(1), 1);
+        due("29: like behind 2, the least again", y.heaviest(2), 0);
+        due("29: by sugar then, not by sugar now", y.heaviest(4), 0);
     }
 
     /** "how much SUGAR of all is less behind them than now" */

@@ -113,6 +113,10 @@ public final class DayBoundaryTest extends Checks {
         due("8: not ahead of and", melts("not 0 and 0"), 0);
         due("8: a test ahead of not", melts("not 0=1"), 1);
         due("8: a sum ahead of a test", melts("1+1<2+1"), 1);
+        for (int inmost = 0; inmost <= 1; inmost++) {
+            String deep = "0 or 1 and 1=0+1*(".repeat(5) + "0 or 1 and 1=0+1*" + inmost + ")".repeat(5);
+            due("8: as deep as there may be, " + inmost, melts(deep), inmost);
+        }
     }
 
     // ---- a day
@@ -539,6 +543,24 @@ public final class DayBoundaryTest extends Checks {
             due("14: anew", x.days(1), many - kept + 1);
             due("14: one is kept", x.count(6), 1);
         }
+        fortyActsOfEight();
+    }
+
+    /** Forty acts of eight heads: as much as there may be. */
+    private static void fortyActsOfEight() {
+        AlmondCabinet x = of("head 99 9 63;".repeat(8) + "heat 0;");
+        for (int k = 0; k < 41; k++) {
+            x.lick(k % 8, 1);
+        }
+        due("14: forty of eight", x.count(6), 40);
+        for (int k = 40; k >= 1; k--) {
+            due("14: left of eight", x.undo(), k - 1);
+            due("14: sugar of all", x.count(5), 8 * 99 - k);
+            due("14: the one who was licked", x.head(k % 8, 0), 99 - k / 8);
+        }
+        due("14: the oldest stands", x.head(0, 0), 98);
+        due("14: opinions of the eighth", x.head(7, 6), 63);
+        due("14: day 0", x.count(1), 0);
     }
 
     /** "They are UNDONE, the last one first."; "NONE: there is none." */
@@ -561,6 +583,16 @@ public final class DayBoundaryTest extends Checks {
         due("14: lean 0", x.head(0, 2), 0);
         due("14: none is left", x.undo(), AlmondCabinet.NONE);
         due("14: not counted", x.count(STATUS_ACTS), 0);
+        AlmondCabinet seats = of(FOUR);
+        seats.change(0, 3);
+        seats.change(3, 1);
+        due("14: changed twice", 100 * seats.seat(0) + 10 * seats.seat(1) + seats.seat(3), 130);
+        seats.undo();
+        due("14: changed once", 100 * seats.seat(0) + 10 * seats.seat(1) + seats.seat(3), 310);
+        due("14: seat of 3", seats.head(3, 3), 0);
+        seats.undo();
+        due("14: as at first", 100 * seats.seat(0) + 10 * seats.seat(1) + seats.seat(3), 13);
+        due("39: neighbours as at first", seats.neighbour(0, 1), 1);
         AlmondCabinet seen = of(FOUR);
         seen.turn(0, 0);
         seen.see(0, 0, true);

@@ -18,6 +18,7 @@ public final class SeenBoundaryTest extends Checks {
         leantOfWhoStands();
         leantAllSeen();
         leantBehindDays();
+        leantWithout();
         lookWhats();
         lookOneToTwenty();
         lookOfLikeOnes();
@@ -202,6 +203,26 @@ public final class SeenBoundaryTest extends Checks {
         due("44: not without", now.leant(2), 0);
     }
 
+    /** "whether it is so without (1)": as it is behind each of these days, by the heat of each. */
+    private static void leantWithout() {
+        for (int days = 0; days <= 20; days++) {
+            int passed = of(FOUR).later(days, 1);
+            for (int question = 0; question <= 5; question++) {
+                AlmondCabinet x = of(FOUR);
+                boolean passes = (passed >> question & 1) == 1;
+                x.see(question, days, passes);
+                due("44: so without, behind " + days, x.leant(2), 1);
+                x.see(question, days, !passes);
+                due("44: and not so, behind " + days, x.leant(2), 0);
+            }
+        }
+        AlmondCabinet now = of("head 5 0 1;melts 20;leans 0;");
+        now.see(0, 0, true);
+        due("44: now, though not behind 1", now.leant(2), 1);
+        now.see(0, 1, false);
+        due("44: both", now.leant(2), 1);
+    }
+
     // ---- look
 
     private static void lookWhats() {
@@ -223,6 +244,12 @@ public final class SeenBoundaryTest extends Checks {
         AlmondCabinet first = of("head 99 0 1;melts 0;leans (day=0)*3;");
         due("45: unlike behind 1", first.look(0), 1);
         due("45: two, at once", first.look(1), 2);
+        AlmondCabinet left = of("head 99 0 1;melts 0;leans 0-(day=0);");
+        due("45: -8 alone is unlike", left.look(1), 2);
+        AlmondCabinet eight = of("head 1 0 1;".repeat(7) + "head 99 0 1;melts (sugar=1);leans (day=1);", 1);
+        due("45: the eighth's 8 alone is unlike", eight.look(1), 2);
+        AlmondCabinet heat = of("head 99 0 1;heat 0 0 0 9;melts 0;leans (heat=9)*3;");
+        due("45: by the heat of each day", heat.look(0), 4);
     }
 
     /** "(.. of like ones the first)"; "how many unlike ones" */
@@ -295,6 +322,12 @@ public final class SeenBoundaryTest extends Checks {
         AlmondCabinet lost = of("head 9 0 1;head 9 0 1;" + "head 9 0 0;".repeat(6));
         due("47: both turn to what turns out", lost.game(0, 1, 0, 1), 11);
         due("47: one couple", lost.game(0, 1, 0, 0), 1);
+        AlmondCabinet both = of("head 9 0 1;head 9 0 1;");
+        due("47: neither turns, or both do", both.game(0, 1, 0, 0), 2);
+        due("47: the first of the two", both.game(0, 1, 0, 1), 0);
+        AlmondCabinet third = of("head 9 0 0;head 9 0 0;head 9 0 1;");
+        due("47: neither turns, or both do to pass it", third.game(0, 1, 0, 0), 2);
+        due("47: the first of these", third.game(0, 1, 0, 1), 0);
         AlmondCabinet follows = leaning(new int[] {0, 1}, 5, 0);
         due("47: who votes as the other one turns to it", follows.game(0, 1, 0, 1), 10);
         leavesAll("47: a game", Checks::busy, NO_STATUS, x -> x.game(0, 1, 0, 0));

@@ -33,6 +33,7 @@ public final class TextBoundaryTest extends Checks {
         firstAlongTheText();
         leastOfOneToken();
         tooSoon();
+        textBehindText();
         end("text boundaries");
     }
 
@@ -364,6 +365,8 @@ public final class TextBoundaryTest extends Checks {
         sound("heat 9;");
         sound("heat 0 1 2 3 4 5 6 7;");
         sound("heat 9 9 9 9 9 9 9 9;");
+        sound("heat 0 0 0 0 0 0 0 0;");
+        due("5: 0 behind another one", of("heat 5 0;", 1).count(2), 0);
         fault("heat 10;", 2, 5);
         fault("heat 1 10;", 2, 7);
         fault("heat 1 1 1 1 1 1 1 10;", 2, 19);
@@ -558,5 +561,27 @@ public final class TextBoundaryTest extends Checks {
         feedText(x, "melts 1;leans");
         due("3: a word is cut by n", x.cabinet(12), 1);
         due("4: at its first byte", x.fault(), 8);
+    }
+
+    /** "all anew": what an earlier text told, sound or not, is neither a second line nor kept. */
+    private static void textBehindText() {
+        String rules = "head 99 0 0;heat 9;melts (" + "1+".repeat(140) + "1)/20;leans 0-2;";
+        AlmondCabinet x = new AlmondCabinet();
+        for (int k = 0; k < 6; k++) {
+            feedText(x, rules);
+            due("3: sound again", x.cabinet(rules.length()), 0);
+            due("3: melts by its own rule", x.then(0, 1, 0), 92);
+            due("3: leans by its own rule", x.then(0, 1, 1), -2);
+            feedText(x, "heat 1;melts 1;leans 1;x");
+            due("3: not sound", x.cabinet(24), 1);
+            due("3: heat of the sound one", x.count(2), 9);
+        }
+        for (int k = 0; k < 2; k++) {
+            feedText(x, "head 50 0 0;head 50 0 0;");
+            due("3: without rules", x.cabinet(24), 0);
+            due("3: heat without", x.count(2), 4);
+            due("3: melts without", x.then(0, 1, 0), 46);
+            due("3: leans without", x.then(0, 1, 1), 0);
+        }
     }
 }
