@@ -26,6 +26,7 @@ public final class SeenBoundaryTest extends Checks {
         gameNumbers();
         gameOfTheFallen();
         gameCouples();
+        gameByTurning();
         yearsNumbers();
         yearsHeat();
         yearsCast();
@@ -331,6 +332,53 @@ public final class SeenBoundaryTest extends Checks {
         AlmondCabinet follows = leaning(new int[] {0, 1}, 5, 0);
         due("47: who votes as the other one turns to it", follows.game(0, 1, 0, 1), 10);
         leavesAll("47: a game", Checks::busy, NO_STATUS, x -> x.game(0, 1, 0, 0));
+    }
+
+    /** "each is TURNED on it now, or not (1, 0)": all couples of three or four heads, turned by acts. */
+    private static void gameByTurning() {
+        int[][] leans = {{0, 0, 0}, {5, 0, 0}, {0, 5, -5}, {0, 0, 0, 0}, {5, 0, -5, 0}};
+        for (int[] its : leans) {
+            for (int opinions = 0; opinions < 1 << its.length; opinions++) {
+                int[] each = new int[its.length];
+                for (int head = 0; head < its.length; head++) {
+                    each[head] = opinions >> head & 1;
+                }
+                AlmondCabinet x = leaning(each, its);
+                due("47: couples that rest", x.game(0, 1, 0, 0), resting(x, 0, 1, 0));
+                due("47: the first couple", x.game(0, 1, 0, 1), resting(x, 0, 1, 1));
+                due("47: couples of the last two", x.game(its.length - 1, 1, 0, 0), resting(x, its.length - 1, 1, 0));
+            }
+        }
+    }
+
+    private static int resting(AlmondCabinet x, int head, int other, int what) {
+        int many = 0;
+        int first = NONE;
+        for (int mine = 0; mine <= 1; mine++) {
+            for (int theirs = 0; theirs <= 1; theirs++) {
+                boolean mineRests = gain(x, head, other, mine, theirs) >= gain(x, head, other, 1 - mine, theirs);
+                boolean theirsRests = gain(x, other, head, theirs, mine) >= gain(x, other, head, 1 - theirs, mine);
+                if (mineRests && theirsRests) {
+                    many++;
+                    first = first == NONE ? 10 * mine + theirs : first;
+                }
+            }
+        }
+        return what == 0 ? many : first;
+    }
+
+    private static int gain(AlmondCabinet x, int head, int other, int mine, int theirs) {
+        if (mine == 1) {
+            x.turn(head, 0);
+        }
+        if (theirs == 1) {
+            x.turn(other, 0);
+        }
+        boolean asItWants = (x.count(4) & 1) == (x.head(head, 6) & 1);
+        for (int turned = mine + theirs; turned > 0; turned--) {
+            x.undo();
+        }
+        return (asItWants ? 5 : 0) - mine;
     }
 
     // ---- years
