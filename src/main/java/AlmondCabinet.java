@@ -262,7 +262,7 @@ public final class AlmondCabinet {
 
     public int falls(int head) throws NoSuchElementException {
         needHead(head);
-        tryDays(0);
+        trial.copyFrom(now);
         for (int days = 0; days < FARTHEST && trial.stands(head); days++) {
             trial.passDays(recipe, 1);
         }
@@ -278,7 +278,7 @@ public final class AlmondCabinet {
     }
 
     public int last() {
-        tryDays(0);
+        trial.copyFrom(now);
         int latest = trial.standing;
         for (int days = 0; days < FARTHEST && trial.standing != 0; days++) {
             latest = trial.standing;
@@ -291,7 +291,7 @@ public final class AlmondCabinet {
     public int tips(int question) throws NoSuchElementException {
         needQuestion(question);
         boolean passesNow = now.passes(question);
-        tryDays(0);
+        trial.copyFrom(now);
         for (int days = 1; days <= FARTHEST; days++) {
             trial.passDays(recipe, 1);
             if (trial.passes(question) != passesNow) {
@@ -314,7 +314,7 @@ public final class AlmondCabinet {
         needQuestion(question);
         boolean passesNow = now.passes(question);
         int bits = 0;
-        tryDays(0);
+        trial.copyFrom(now);
         for (int head = 0; head < now.heads; head++) {
             trial.standing = now.standing & ~(1 << head);
             if (now.stands(head) && trial.passes(question) != passesNow) {
@@ -383,7 +383,7 @@ public final class AlmondCabinet {
     public int better() {
         int most = Integer.bitCount(now.passing());
         int couple = NONE;
-        tryDays(0);
+        trial.copyFrom(now);
         for (int head = 0; head < now.heads; head++) {
             for (int other = head + 1; other < now.heads; other++) {
                 trial.swapSeats(head, other);
@@ -452,7 +452,7 @@ public final class AlmondCabinet {
         // more than 99 is the same as 99, so there is nothing to try beyond
         int most = Math.min(MOST_CAST, MOST_SUGAR - now.sugar[head]);
         for (int more = 0; more <= most && now.stands(head); more++) {
-            tryDays(0);
+            trial.copyFrom(now);
             trial.sugar[head] += more;
             trial.passDays(recipe, days);
             if (trial.stands(head)) {
@@ -567,7 +567,7 @@ public final class AlmondCabinet {
         needWhat(what, 2);
         int latest = seen.latestDay();
         if (what == 2) {
-            tryDays(0);
+            trial.copyFrom(now);
             foresee(0, latest);
             return seen.isSo(passedOn) ? 1 : 0;
         }
@@ -644,7 +644,7 @@ public final class AlmondCabinet {
     public int years(int seed, int n, int what) throws NoSuchElementException, IllegalArgumentException {
         needWhat(what, 2);
         needDays(n, 0);
-        tryDays(0);
+        trial.copyFrom(now);
         draws.seed = seed;
         for (int day = 0; day < n; day++) {
             int heat = draws.below(10);
@@ -753,7 +753,7 @@ public final class AlmondCabinet {
         if (head >= now.heads || !now.stands(head) || now.lean[head] == lean) {
             return false;
         }
-        tryDays(0);
+        trial.copyFrom(now);
         trial.lean[head] = lean;
         foresee(0, latest);
         return seen.isSo(passedOn);
