@@ -1,6 +1,7 @@
 /** One group of checks for each promise of the document: ordinary inputs, edges, wrong inputs. */
 public final class PromiseTest extends Checks {
     public static void main(String[] args) {
+        readme();
         newObject();
         feed();
         cabinet();
@@ -42,6 +43,19 @@ public final class PromiseTest extends Checks {
         years();
         image();
         end("promises");
+    }
+
+    /** README.md's lines of a text, and its example. */
+    private static void readme() {
+        sound("head 30 2 3;\nmarbled 20 1 5 6;\nheat 6 3;\nmelts heat-almond+(60<sugar);\nleans (left<right)*2-1;\n");
+        AlmondCabinet x = new AlmondCabinet();
+        x.feed(0x68656164, 0x20333020, 0x3220333b, 0x68656164, 0x20352039);
+        x.feed(0x20313b20, 0x20202020, 0x20202020, 0x20202020, 0x20202020);
+        due("README, cabinet", x.cabinet(23), 0);
+        due("README, days", x.days(3), 3);
+        due("README, count", x.count(3), 3);
+        due("README, falls", x.falls(0), 12);
+        due("README, undo", x.undo(), 0);
     }
 
     private static void newObject() {
